@@ -1,0 +1,146 @@
+import java.lang.reflect.Constructor;
+import java.lang.reflect.Field;
+import java.lang.reflect.Method;
+import java.lang.reflect.Modifier;
+import java.nio.file.Files;
+import java.nio.file.Path;
+import java.util.ArrayList;
+import java.util.List;
+import java.util.Set;
+import java.util.TreeSet;
+import java.util.regex.Matcher;
+import java.util.regex.Pattern;
+
+/** The face is the document's, and the source keeps to the rules of LANGUAGE.md that a look at it can find. */
+public final class FaceTest {
+    private static final Path SOURCE = Path.of("src/main/java/TentCamp.java");
+    private static final Path DOCUMENT = Path.of("../shared/DOC.md");
+    private static final Check check = new Check("FaceTest");
+
+    private FaceTest() { }
+
+    public static void main(String[] args) throws Exception {
+        face();
+        nested();
+        source();
+        room();
+        check.end();
+    }
+
+    private static void right(String what, boolean is) {
+        check.due(what, is ? 1 : 0, 1);
+    }
+
+    private static void face() throws Exception {
+        Class<TentCamp> c = TentCamp.class;
+        right("public and final", Modifier.isPublic(c.getModifiers()) && Modifier.isFinal(c.getModifiers()));
+        Set<String> due = new TreeSet<>();
+        String doc = Files.readString(DOCUMENT);
+        Matcher m = Pattern.compile("    public int (\\w+)\\(([^)]*)\\)( throws ([\\w, ]+))?;").matcher(doc);
+        while (m.find()) {
+            String types = m.group(2).replaceAll(" \\w+(,|$)", "$1").replace(" ", "");
+            due.add("int " + m.group(1) + "(" + types + ") " + (m.group(4) == null ? "" : m.group(4).replace(" ", "")));
+        }
+        check.due("methods of the document", due.size(), 25);
+        Set<String> got = new TreeSet<>();
+        Set<String> names = new TreeSet<>();
+        for (Method method : c.getDeclaredMethods()) {
+            if (Modifier.isPublic(method.getModifiers())) {
+                names.add(method.getName());
+                got.add(method.getReturnType() + " " + method.getName() + "(" + simple(method.getParameterTypes()) + ") "
+                    + simple(method.getExceptionTypes()));
+            } else {
+                right(method + " is private", Modifier.isPrivate(method.getModifiers()));
+            }
+        }
+        right("the methods are " + due + ", they were " + got, got.equals(due));
+        for (Method method : c.getDeclaredMethods()) {
+            right(method + " has a name of its own",
+                Modifier.isPublic(method.getModifiers()) || !names.contains(method.getName()));
+        }
+        for (Field field : c.getDeclaredFields()) {
+            boolean isPublic = field.getName().equals("NONE");
+            right(field + "", isPublic ? Modifier.isPublic(field.getModifiers()) : Modifier.isPrivate(field.getModifiers()));
+            right(field + " is final", Modifier.isFinal(field.getModifiers()));
+        }
+        Constructor<?>[] constructors = c.getDeclaredConstructors();
+        right("one public constructor", constructors.length == 1 && Modifier.isPublic(constructors[0].getModifiers())
+            && constructors[0].getParameterCount() == 0);
+    }
+
+    private static String simple(Class<?>[] types) {
+        List<String> names = new ArrayList<>();
+        for (Class<?> type : types) {
+            names.add(type.getSimpleName());
+        }
+        return String.join(",", names);
+    }
+
+    private static void nested() {
+        Class<?>[] inside = TentCamp.class.getDeclaredClasses();
+        right("some twelve classes", inside.length <= 12);
+        for (Class<?> c : inside) {
+            right(c + " is static", Modifier.isStatic(c.getModifiers()));
+            right(c + " is not public", !Modifier.isPublic(c.getModifiers()) && !Modifier.isProtected(c.getModifiers()));
+            int fields = 0;
+            for (Field field : c.getDeclaredFields()) {
+                right(field + " is no static one", !Modifier.isStatic(field.getModifiers()));
+                fields++;
+            }
+            right(c + " has some twenty fields", fields <= 20);
+            for (Method method : c.getDeclaredMethods()) {
+                right(method + " has seven parameters", method.getParameterCount() <= 7);
+                right(method + " is not public", !Modifier.isPublic(method.getModifiers()));
+            }
+        }
+    }
+
+    private static void source() throws Exception {
+        String text = Files.readString(SOURCE);
+        right("characters 1 to 127", text.chars().allMatch(c -> c < 128));
+        String code = text.replaceAll("(?s)/\\*.*?\\*/", "").replaceAll("//[^\n]*", "").replaceAll("\"[^\"\n]*\"", "\"\"");
+        String[] words = {"package", "import", "catch", "finally", "synchronized", "assert", "instanceof", "Exact", "native",
+            "Random", "System.nanoTime", "System.currentTime", "Thread", "System.out", "lambda", "equals", "hashCode", "toString"};
+        for (String word : words) {
+            right("no " + word, !code.contains(word));
+        }
+        right("no lambda, no method reference", !code.contains("->") && !code.contains("::"));
+        Matcher calls = Pattern.compile("\\b(System|Arrays|Math|Integer|Long|String|StringBuilder)\\.(\\w+)").matcher(code);
+        Set<String> allowed = Set.of("System.arraycopy", "Math.max", "Math.min");
+        while (calls.find()) {
+            right(calls.group() + " is of the library", allowed.contains(calls.group()));
+        }
+        Matcher thrown = Pattern.compile("throw (\\w+ \\w+)").matcher(code);
+        Set<String> exceptions = Set.of("new IllegalArgumentException", "new IllegalStateException", "new IndexOutOfBoundsException");
+        while (thrown.find()) {
+            right(thrown.group(), exceptions.contains(thrown.group(1)));
+        }
+    }
+
+    /** A run of 512 calls makes nothing beyond its object; the dearest ones are called again and again here. */
+    private static void room() {
+        java.lang.management.ThreadMXBean bean = java.lang.management.ManagementFactory.getThreadMXBean();
+        if (!(bean instanceof com.sun.management.ThreadMXBean threads)) {
+            return;
+        }
+        TentCamp camp = new TentCamp();
+        for (char c : "T08128eeep408p011p058p202l".toCharArray()) {
+            camp.append(c);
+        }
+        int sum = dear(camp);
+        long before = threads.getCurrentThreadAllocatedBytes();
+        sum += dear(camp);
+        long made = threads.getCurrentThreadAllocatedBytes() - before;
+        right("512 calls made " + made + " bytes", made < 100000 && sum != 0);
+    }
+
+    private static int dear(TentCamp camp) {
+        int sum = 0;
+        for (int i = 0; i < 32; i++) {
+            sum += camp.load() + camp.enter() + camp.pitch(3, 1) + camp.fill(0, 9) + camp.set(1, 0) + camp.jump(0) + camp.undo();
+            sum += camp.save(0) + camp.restore(0) + camp.bestSize() + camp.more(1, 1) + camp.simulate(i, 99);
+            sum += camp.runScript(3, 100112000120000L) + camp.givenUp(0) + camp.spare(0) + camp.about(7);
+        }
+        return sum;
+    }
+}
