@@ -448,25 +448,30 @@ public final class TentCamp {
         }
 
         void strew(int v, int from, int to) {
-            for (int i = from; i < to; i++) {
-                put(i, v);
+            int past = Math.min(to, cells.length);
+            for (int i = Math.max(from, 0); i < past; i++) {
+                cells[i] = v;
             }
         }
 
         int countOf(int v, int from, int to) {
             int count = 0;
-            for (int i = from; i < to; i++) {
-                if (get(i) == v) {
+            int past = Math.min(to, cells.length);
+            for (int i = Math.max(from, 0); i < past; i++) {
+                if (cells[i] == v) {
                     count++;
                 }
             }
             return count;
         }
 
-        /** Takes n cells out; those behind them close up. */
+        /** Takes n cells out, 1 or more; those behind them close up. */
         void cut(int from, int n) {
-            for (int i = from; i + n < cells.length; i++) {
-                put(i, get(i + n));
+            if (n < 1) {
+                return;
+            }
+            for (int i = Math.max(from, 0); i < cells.length - n; i++) {
+                cells[i] = cells[i + n];
             }
         }
 
@@ -554,12 +559,12 @@ public final class TentCamp {
             return f >= 0 && f < count;
         }
 
-        void add(int itsStart, int itsSize, boolean isBig) {
+        void add(int itsStart, int itsSize, boolean isBig, int itsEnd) {
             if (count < FIELD_LIMIT) {
                 start.put(count, itsStart);
                 size.put(count, itsSize);
                 big.put(count, isBig ? 1 : 0);
-                end.put(count, 0);
+                end.put(count, itsEnd);
                 count++;
             }
         }
@@ -732,20 +737,18 @@ public final class TentCamp {
                     return last;
                 case ON_SPARE:
                     int s = spares.smallestFor(size);
-                    inUse.add(spares.start.get(s), spares.size.get(s), wantsBig(size));
+                    inUse.add(spares.start.get(s), spares.size.get(s), wantsBig(size), size);
                     spares.remove(s);
-                    break;
+                    return inUse.count - 1;
                 case ON_NEW:
                     int places = newFieldSize(size);
                     values.strew(0, fieldPlaces, fieldPlaces + places);
-                    inUse.add(fieldPlaces, places, wantsBig(size));
+                    inUse.add(fieldPlaces, places, wantsBig(size), size);
                     fieldPlaces += places;
-                    break;
+                    return inUse.count - 1;
                 default:
                     return NONE;
             }
-            inUse.end.put(inUse.count - 1, size);
-            return inUse.count - 1;
         }
 
         /** Pitches a tent; answers its number, or NONE. */
@@ -837,11 +840,10 @@ public final class TentCamp {
 
         private void clearFields(int staying) {
             for (int f = inUse.count - 1; f >= staying; f--) {
-                spares.add(inUse.start.get(f), inUse.size.get(f), false);
+                spares.add(inUse.start.get(f), inUse.size.get(f), false, 0);
             }
             inUse.count = staying;
-            // A struck tent may have been the last one of a field that stays.
-            inUse.end.strew(0, 0, staying);
+            // The last tent of a field that stays may be gone; another one stands on it for sure.
             for (int t = 0; t < tents.count; t++) {
                 inUse.end.put(tents.field.get(t), tents.end(t));
             }
@@ -849,18 +851,15 @@ public final class TentCamp {
 
         private void giveUpTooMuch() {
             for (int n = 0; n < FIELD_LIMIT && spares.places() > keeps; n++) {
-                giveUp(spares.greatest());
+                int s = spares.greatest();
+                int from = spares.start.get(s);
+                int places = spares.size.get(s);
+                spares.remove(s);
+                values.cut(from, places);
+                inUse.closeUp(from, places);
+                spares.closeUp(from, places);
+                fieldPlaces -= places;
             }
-        }
-
-        private void giveUp(int s) {
-            int from = spares.start.get(s);
-            int places = spares.size.get(s);
-            spares.remove(s);
-            values.cut(from, places);
-            inUse.closeUp(from, places);
-            spares.closeUp(from, places);
-            fieldPlaces -= places;
         }
 
         int gaps() {
@@ -1004,9 +1003,9 @@ public final class TentCamp {
             wrong = true;
         }
 
+        /** The sign where the reader stands, or NONE behind the last one; goes on behind it. */
         private int readLetter() {
             if (!goesOn()) {
-                wrong = true;
                 return NONE;
             }
             int c = signs.get(at);

@@ -194,6 +194,14 @@ public final class PromiseTest {
         due("load again: as in a new object", camp.load(), 3);
         abouts("loaded again", camp, 1, 1, 1, 0, 5, 5, 5, 0, 10, 10, 1, 8, 128, 0);
         due("load keeps the text", camp.clearText(), 30);
+        abouts("no commands", loaded("T64128"), 0, 0, 0, 0, 0, 0, 0, 0, 0, 0, 0, 64, 128, 1);
+        TentCamp used = withText("T64000");
+        used.enter();
+        used.pitch(9, 1);
+        used.leave();
+        used.set(2, 0);
+        due("load into a used one", used.load(), 0);
+        abouts("load into a used one", used, 0, 0, 0, 0, 0, 0, 0, 0, 0, 0, 0, 64, 0, 1);
         due("e, 8 at most", withText("T16032" + "e".repeat(10)).load(), 2);
         due("p, 24 at most", withText("T64032" + "p011".repeat(23)).load(), 0);
         TentCamp full = withText("T64032" + "p408".repeat(8) + "p011");
@@ -818,7 +826,7 @@ public final class PromiseTest {
         // Two tents of 7 places on field 0, a gap of 3 between them, a spare field of 20.
         int[] good = {10011, 10408, 10164, 20000, 40000, 40199, 50007, 50999, 60003, 60999, 70000, 70100, 80001, 80099, 90002, 90000};
         int[] bad = {0, 10001, 10411, 10053, 10050, 11011, 19011, 20001, 20002, 20010, 20100, 21000, 30000, 30001, 40200, 49900,
-            50006, 51007, 60002, 61003, 69999, 70001, 70010, 70200, 79900, 80000, 80101, 81001, 90003, 90100, 91002, 99999};
+            50006, 51000, 51007, 60002, 61000, 61003, 69999, 70001, 70010, 70200, 79900, 80000, 80101, 81001, 90003, 90100, 91002, 99999};
         for (int group : good) {
             script(camp, group, true);
         }
@@ -846,6 +854,10 @@ public final class PromiseTest {
         script(camp, 10011, false);
         script(camp, 90024, true);
         script(camp, 90025, false);
+        TentCamp small = loaded("T08032" + "p051".repeat(12));
+        script(small, 70909, true);
+        // The tent 10 lies on the field 10, but where the 1 is a 0 is written.
+        script(small, 71010, false);
     }
 
     private static void simulate() {
