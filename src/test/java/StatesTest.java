@@ -306,11 +306,11 @@ public final class StatesTest extends Due {
         sentence("Before each action, the state is remembered.");
         sentence("Takes back the last action that is remembered.");
         String[] actions = {"p011", "p161", "p401", "p098", "f0000", "f0399", "e", "l", "j0", "j1", "U8", "U64", "K0", "K128", "P0", "P1",
-            "U8 p051", "K0 j0", "P0 j0", "K0 l"};
+            "U8 p051", "K0 j0", "P0 j0", "K0 l", "j0 p012 p014 p204", "K0 j0 e p158 p301", "l l e p018 e", "l P0 U33 p112 f0012 e p304"};
         // Restoring forgets the states ahead of it, so that none of the others is forgotten here.
-        for (String state : new String[] {RICH + " s0 r0", RICH + " s1 r1 p071 f0033", "K128 e e 3*p401 j1 4*p011 s0"}) {
+        for (String state : new String[] {RICH + " s0 r0", RICH + " s1 r1 p071 f0033", "K128 e e 3*p401 j1 3*p018 p011 s0 r0"}) {
             for (String action : actions) {
-                String back = action.contains(" ") ? " u u" : " u";
+                String back = " u".repeat(action.split(" ").length);
                 Look.alike(check, action + " and undo", () -> Camps.of(state), () -> Camps.of(state + " " + action + back));
             }
         }
@@ -418,7 +418,7 @@ public final class StatesTest extends Due {
 
     private static void saveCopies() {
         sentence("Stores the present state in a save slot.");
-        String changes = " f0077 l l p401 U40 K3 P0 e e p011 j0";
+        String changes = " f0077 l l p401 U40 K3 P0 p014 p118 e e p012 j0";
         Look.alike(check, "save, changes, restore", () -> Camps.of(RICH + " s0 r0"), () -> Camps.of(RICH + " s0" + changes + " r0"));
         Look.alike(check, "the other slot", () -> Camps.of(RICH + " s1 r1"), () -> Camps.of(RICH + " s1" + changes + " r1"));
         Look.alike(check, "over an older one", () -> Camps.of(RICH + " s0 r0"), () -> Camps.of("p401 s0 u " + RICH + " s0" + changes + " r0"));
@@ -434,7 +434,7 @@ public final class StatesTest extends Due {
 
     private static void restore() {
         sentence("The save slot keeps it.");
-        String changes = " f0077 l p401 e p011 j0";
+        String changes = " f0077 l l p012 p401 e p018 j0 p204";
         Look.alike(check, "restored twice", () -> Camps.of(RICH + " s0 r0"), () -> Camps.of(RICH + " s0 l r0" + changes + " r0"));
         Look.alike(check, "both slots", () -> Camps.of(RICH + " s1 l s0 r1"), () -> Camps.of(RICH + " s1 l s0 r1" + changes + " r0 r1"));
         TentCamp camp = Camps.of("p031 s1");

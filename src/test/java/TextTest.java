@@ -20,6 +20,7 @@ public final class TextTest extends Due {
         leftOut();
         mostLeftOut();
         asInANewObject();
+        likeANewOne();
         forgets();
         keepsText();
         notACamp();
@@ -322,7 +323,8 @@ public final class TextTest extends Due {
 
     private static void asInANewObject() {
         sentence("Makes everything as in a new object");
-        TentCamp camp = Camps.of("U64 K128 P0 p401 f0055 e p321 f0166 p201 e p081 j0 p031 tT16032");
+        TentCamp camp = Camps.of("K128 P0 p401 f0055 e p321 f0166 p201 p101 e p081 j0 U64 p031 e tT16032");
+        due("spare ones ahead of load", camp.about(2), 3);
         due("load", camp.load(), 0);
         int[] wants = {0, 0, 0, 0, 0, 0, 0, 0, 0, 0, 0, 16, 32, 1};
         for (int what = 0; what <= 13; what++) {
@@ -342,6 +344,35 @@ public final class TextTest extends Due {
         due("load again", camp.load(), 0);
         due("no tents", camp.about(0), 0);
         due("greatest number", camp.about(8), 0);
+    }
+
+    private static TentCamp used(String calls, String text) {
+        TentCamp camp = Camps.of(calls);
+        camp.clearText();
+        Camps.write(camp, text);
+        camp.load();
+        return camp;
+    }
+
+    private static void likeANewOne() {
+        sentence("Makes everything as in a new object, with the usual size and what it keeps of the text, and then does the commands of the text.");
+        String[] texts = {"T16032", "T08000ep051p051ep401l", "T64128p321f0055ep201p208p161j0xep054l", "T16032ep161p171l"};
+        String[] before = {"K128 e 3*p401 l", "K128 P0 U8 e 24*p051 j0 e e p018 s0", "6*p401 p161 s1 8*e", "24*p011 e l U64 tTTT"};
+        for (String text : texts) {
+            for (String calls : before) {
+                Look.alike(check, "load of " + text + " behind " + calls, () -> used("", text), () -> used(calls, text));
+                TentCamp camp = used(calls, text);
+                TentCamp fresh = Camps.loaded(text);
+                String strike = "K32 e p401 p161 p091 p081 l";
+                due("struck", Camps.go(camp, strike), Camps.go(fresh, strike));
+                for (int i = 0; i < 9; i++) {
+                    due("spare fields behind a striking", camp.spare(i), fresh.spare(i));
+                }
+            }
+        }
+        TentCamp camp = used("K128 e 3*p401 l", "T16032");
+        due("behind load", Camps.go(camp, "e p161 p171 l"), 2);
+        due("33 are too many, 17 goes", camp.about(6), 16);
     }
 
     private static void forgets() {

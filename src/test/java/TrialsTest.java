@@ -36,6 +36,9 @@ public final class TrialsTest extends Due {
         firstOfScript();
         allGroups();
         thresholds();
+        fieldOfScript();
+        doneByScript();
+        trialsApart();
         onACopy();
         simulateRange();
         overflow();
@@ -412,12 +415,86 @@ public final class TrialsTest extends Due {
             due("at least 0", camp.runScript(1, 90000), NONE);
             due("at least 99", camp.runScript(1, 90099), 0);
         }
+    }
+
+    private static void fieldOfScript() {
+        sentence("7 t t 0 f: succeeds if the tent tt lies on the field f.");
         // A field is one digit; the 0 ahead of it is none of its digits.
-        TentCamp camp = Camps.of("U8 12*p051");
-        due("tent 9 on field 9", camp.runScript(1, 70909), NONE);
-        due("tent 10 not on field 0", camp.runScript(1, 71000), 0);
-        due("tent 10 on field 10 cannot be written", camp.runScript(1, 71010), 0);
-        due("no tent 12", camp.runScript(1, 71200), 0);
+        TentCamp camp = Camps.of("U8 24*p051");
+        for (int t = 0; t <= 25; t++) {
+            for (int f = 0; f <= 12; f++) {
+                due("tent " + t + " on field " + f, camp.runScript(1, 70000 + 100 * t + f), t == f && f <= 9 ? NONE : 0);
+            }
+            if (t > 9) {
+                due("tent " + t + " on field " + t, camp.runScript(1, 70000 + 101 * t), 0);
+            }
+        }
+        due("another field 0", Camps.of("p081 p081 p011").runScript(3, 700007010070201L), NONE);
+    }
+
+    /** What a command of a script does shows in the one behind it. */
+    private static void doneByScript() {
+        sentence("1 0 x y s: pitch(xy, s).");
+        for (int n = 1; n <= 40; n++) {
+            for (int s : STEPS) {
+                TentCamp done = Camps.of("p011 p" + two(n) + s);
+                TentCamp camp = Camps.of("p011");
+                long pitch = (10000 + 10 * n + s) * 100000L;
+                int gaps = done.about(7);
+                String what = "pitch(" + n + ", " + s + ")";
+                due(what + ", gaps", camp.runScript(2, pitch + 60000 + gaps), NONE);
+                if (gaps > 0) {
+                    due(what + ", less gaps", camp.runScript(2, pitch + 60000 + gaps - 1), 1);
+                }
+                due(what + ", places", camp.runScript(2, pitch + 50000 + 1 + n), NONE);
+                due(what + ", less places", camp.runScript(2, pitch + 50000 + n), 1);
+                due(what + ", its field", camp.runScript(2, pitch + 70100 + done.tent(1, 0)), NONE);
+                due(what + ", another field", camp.runScript(2, pitch + 70100 + 1 - done.tent(1, 0)), 1);
+            }
+        }
+        sentence("2 0 0 0 k: k 0: enter(); 1: leave(). 3 0 0 0 i: jump(i).");
+        TentCamp camp = Camps.of("p031 e p161 e p161");
+        due("leave: one struck", camp.runScript(3, 200019000290003L), 2);
+        due("jump(1): one struck", camp.runScript(3, 300019000290003L), 2);
+        due("jump(0): two struck", camp.runScript(2, 3000090002L), 1);
+        due("jump(0): one stands", camp.runScript(2, 3000090001L), NONE);
+        due("jump(0), then none is behind it", camp.runScript(2, 3000030001L), 1);
+        due("jump(0), then it stays", camp.runScript(2, 3000030000L), NONE);
+        due("leave, then frame 1 is gone", camp.runScript(2, 2000130001L), 1);
+        due("leave, then one is spare", camp.runScript(2, 2000180001L), NONE);
+        due("leave, then not none", camp.runScript(2, 2000180000L), 1);
+        due("jump(0), then two are spare", camp.runScript(2, 3000080001L), 1);
+        due("enter, then jump(2)", camp.runScript(2, 2000030002L), NONE);
+        due("leave, pitch takes the spare one", camp.runScript(3, 200011016180000L), NONE);
+        due("nothing was done", camp.about(0), 3);
+    }
+
+    /** A trial finds nothing of the one ahead of it. */
+    private static void trialsApart() {
+        sentence("what would be; these and all following methods up to the save slots change nothing.");
+        for (String state : STATES) {
+            int count = Camps.of(state).about(3);
+            for (int first = 0; first < 7; first++) {
+                for (int then = 0; then < 7; then++) {
+                    long alone = trial(Camps.of(state), then, count);
+                    TentCamp camp = Camps.of(state);
+                    trial(camp, first, count);
+                    due("trial " + then + " behind trial " + first, trial(camp, then, count), alone);
+                }
+            }
+        }
+    }
+
+    private static long trial(TentCamp camp, int which, int frames) {
+        switch (which) {
+            case 0: return camp.bestSize();
+            case 1: return camp.more(7, 4);
+            case 2: return frames == 0 ? 0 : camp.givenUp(0);
+            case 3: return frames == 0 ? 0 : camp.givenUp(frames - 1);
+            case 4: return camp.runScript(3, 300001004110401L);
+            case 5: return camp.simulate(77, 60);
+            default: return camp.where(16, 1);
+        }
     }
 
     private static void onACopy() {
