@@ -35,6 +35,9 @@ public final class FieldsTest extends Due {
         spareMany();
         pitch();
         fill();
+        fillAll();
+        sideBySide();
+        notInUse();
         check.end();
     }
 
@@ -220,6 +223,8 @@ public final class FieldsTest extends Due {
     }
 
     private static void sizes() {
+        sentence("size: 1 to 40 - step: 1, 2, 4 or 8");
+        sentence("Throws IllegalArgumentException if an argument is out of its range");
         sentence("its size is how many (1 to 40), its step 1, 2, 4 or 8: the number of its first place can be divided by that.");
         for (int n = 0; n <= 99; n++) {
             TentCamp camp = new TentCamp();
@@ -566,6 +571,7 @@ public final class FieldsTest extends Due {
                 due("tent(" + t + ", " + what + ")", camp.tent(t, what), wants[t][what]);
             }
         }
+        sentence("Throws IllegalArgumentException if what is not 0 to 4");
         range("what", 0, 4, ARGUMENT, what -> camp.tent(2, what));
         range("t", 0, 2, INDEX, t -> camp.tent(t, 4));
         fails("the index counts first", INDEX, () -> camp.tent(3, -1));
@@ -612,6 +618,7 @@ public final class FieldsTest extends Due {
         }
         TentCamp camp = Camps.of("K128 p011 e p401 l p171");
         range("f", 0, 1, INDEX, f -> camp.field(f, 0));
+        sentence("Throws IllegalArgumentException if what is not 0 to 4");
         range("what", 0, 4, ARGUMENT, what -> camp.field(1, what));
         fails("the index counts first", INDEX, () -> camp.field(2, 5));
         fails("the index counts first", INDEX, () -> camp.field(-1, -1));
@@ -649,7 +656,36 @@ public final class FieldsTest extends Due {
         }
     }
 
+    private static void sideBySide() {
+        sentence("A tent lies on some places of one field side by side");
+        for (int n = 1; n <= 40; n++) {
+            TentCamp camp = Camps.of("p018 p" + two(n) + "8 f0150 p018 p211");
+            int f = camp.tent(1, 0);
+            int first = camp.tent(1, 1);
+            for (int g = 0; g < camp.about(1); g++) {
+                for (int k = 0; k < camp.field(g, 0); k++) {
+                    int want = g == f && k >= first && k < first + n ? 50 : 0;
+                    due("value of place " + k + " of field " + g, camp.place(g, k), want);
+                }
+            }
+        }
+    }
+
+    private static void notInUse() {
+        sentence("Fields that are not in use are spare ones.");
+        for (int n = 0; n <= 12; n++) {
+            TentCamp camp = Camps.of("K128 e 12*p101 j0 " + n + "*p091");
+            due("in use", camp.about(1), n);
+            due("spare", camp.about(2), 12 - n);
+            due("places in use", camp.about(5), 10 * n);
+            due("spare places", camp.about(6), 120 - 10 * n);
+            due("the last spare one", camp.spare(11 - n < 0 ? 0 : 11 - n), n == 12 ? NONE : 10);
+            due("none behind it", camp.spare(12 - n), NONE);
+        }
+    }
+
     private static void place() {
+        sentence("Returns its value.");
         sentence("Throws IndexOutOfBoundsException if there is no such field or place");
         int[] usuals = {8, 9, 16, 63, 64};
         for (int u : usuals) {
@@ -745,8 +781,7 @@ public final class FieldsTest extends Due {
     }
 
     private static void fill() {
-        sentence("Gives all places of a tent a value.");
-        sentence("Returns how many of them had poison.");
+        sentence("Throws IllegalArgumentException if v is out of range");
         TentCamp camp = Camps.of("p031 p048 p401");
         range("v", 0, 99, ARGUMENT, v -> camp.fill(1, v));
         range("t", 0, 2, INDEX, t -> camp.fill(t, 5));
@@ -754,6 +789,16 @@ public final class FieldsTest extends Due {
         fails("the index counts first", INDEX, () -> camp.fill(3, 100));
         fails("the index counts first", INDEX, () -> camp.fill(-1, -1));
         fails("no tent", INDEX, () -> new TentCamp().fill(0, 0));
+        for (int v = 0; v <= 99; v++) {
+            TentCamp one = Camps.of("p021");
+            due("fill", one.fill(0, v), 0);
+            due("its value", one.place(0, 1), v);
+        }
+    }
+
+    private static void fillAll() {
+        sentence("Gives all places of a tent a value.");
+        sentence("Returns how many of them had poison.");
         for (int n = 1; n <= 40; n++) {
             String p = "p" + two(n) + "1";
             TentCamp all = Camps.of("K64 U64 p011 e p401 l " + p);

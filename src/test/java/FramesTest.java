@@ -68,6 +68,7 @@ public final class FramesTest extends Due {
     }
 
     private static void framesKnow() {
+        sentence("0: how many tents stood when it was entered; 1: how many fields were in use then");
         sentence("A frame knows how many tents stood, and how many fields were in use, when it was entered.");
         for (int n = 0; n <= 24; n++) {
             TentCamp camp = Camps.of("U8 " + n + "*p051 e");
@@ -333,6 +334,7 @@ public final class FramesTest extends Due {
     }
 
     private static void enter() {
+        sentence("Enters a frame. Returns its number.");
         sentence("Throws IllegalStateException if there are 8");
         TentCamp camp = Camps.of("7*e");
         due("the eighth", camp.enter(), 7);

@@ -37,6 +37,8 @@ public final class StatesTest extends Due {
     }
 
     private static void newObject() {
+        sentence("NONE = -1: There is no such result.");
+        due("NONE", TentCamp.NONE, -1);
         sentence("Creates a camp without fields, tents and frames.");
         int[] wants = {0, 0, 0, 0, 0, 0, 0, 0, 0, 0, 0, 16, 32, 1};
         TentCamp camp = new TentCamp();
@@ -79,6 +81,7 @@ public final class StatesTest extends Due {
     private static void aboutNumbers() {
         sentence("0: the number of tents; 1: of fields in use; 2: of spare ones; 3: of frames; 4: the places of all tents; 5: of all fields "
             + "in use; 6: of all spare ones; 7: of all gaps");
+        sentence("11: the usual size; 12: what the camp keeps; 13: 1 if it is poisoned, otherwise 0");
         int[][] wants = {{4, 2, 2, 2, 22, 33, 60, 5, 81, 93, 3, 16, 90, 1}, {2, 1, 3, 1, 4, 16, 77, 5, 81, 93, 5, 16, 90, 1}};
         TentCamp camp = Camps.of(RICH);
         for (int i = 0; i < 2; i++) {
@@ -189,6 +192,7 @@ public final class StatesTest extends Due {
     }
 
     private static void setUsualAndPoison() {
+        sentence("2: whether it is poisoned (0 or 1)");
         sentence("0: the usual size (fields that there are stay as they are)");
         sentence("Returns the previous one.");
         TentCamp camp = Camps.of("K128 e p081 p081 e p081 l");
@@ -433,6 +437,7 @@ public final class StatesTest extends Due {
     }
 
     private static void restore() {
+        sentence("Returns the number of tents then.");
         sentence("The save slot keeps it.");
         String changes = " f0077 l l p012 p401 e p018 j0 p204";
         Look.alike(check, "restored twice", () -> Camps.of(RICH + " s0 r0"), () -> Camps.of(RICH + " s0 l r0" + changes + " r0"));

@@ -12,6 +12,9 @@ public final class TextTest extends Due {
         clearText();
         clearFull();
         firstWrongCharacter();
+        headNumbers();
+        commandNumbers();
+        leftToRight();
         tooSoon();
         fullTexts();
         textStays();
@@ -50,6 +53,7 @@ public final class TextTest extends Due {
     }
 
     private static void length100() {
+        sentence("Returns the new length of the text.");
         sentence("The object has a text buffer of at most 100 characters.");
         sentence("Throws IllegalStateException if the text already has 100 characters");
         TentCamp camp = new TentCamp();
@@ -162,6 +166,81 @@ public final class TextTest extends Due {
         }
     }
 
+    /** Where a number with so many digits goes wrong, from 0; NONE if it is one of least to greatest. */
+    private static int wrongDigit(int number, int digits, int least, int greatest) {
+        int span = 1;
+        for (int i = 0; i < digits; i++) {
+            span *= 10;
+        }
+        for (int i = 0; i < digits; i++) {
+            span /= 10;
+            boolean begins = false;
+            for (int allowed = least; allowed <= greatest; allowed++) {
+                begins |= allowed / span == number / span;
+            }
+            if (!begins) {
+                return i;
+            }
+        }
+        return NONE;
+    }
+
+    private static void numberDue(String text, int at, int wrong) {
+        due("errorPosition of " + text, Camps.withText(text).errorPosition(), wrong == NONE ? NONE : at + wrong);
+    }
+
+    private static void headNumbers() {
+        sentence("A camp is the letter T, two digits for the usual size (08 to 64), three for what it keeps (000 to 128)");
+        for (int usual = 0; usual <= 99; usual++) {
+            numberDue("T" + two(usual) + "032", 1, wrongDigit(usual, 2, 8, 64));
+        }
+        for (int keeps = 0; keeps <= 999; keeps++) {
+            numberDue("T16" + three(keeps), 3, wrongDigit(keeps, 3, 0, 128));
+        }
+        due("no T", Camps.withText("16032").errorPosition(), 0);
+        due("a second T", Camps.withText("TT16032").errorPosition(), 1);
+        due("one digit too few", Camps.withText("T8032").errorPosition(), 1);
+        due("one digit too few", Camps.withText("T1632").errorPosition(), 3);
+        due("one digit too few", Camps.withText("T16032p1").errorPosition(), 8);
+        due("one digit too many", Camps.withText("T160320").errorPosition(), 6);
+        due("a sign", Camps.withText("T+8032").errorPosition(), 1);
+        due("a sign", Camps.withText("T16-01").errorPosition(), 3);
+    }
+
+    private static void commandNumbers() {
+        sentence("the letter p, two digits for a size (01 to 40) and one for a step (1, 2, 4 or 8): pitch()");
+        for (int n = 0; n <= 99; n++) {
+            for (int s = 0; s <= 9; s++) {
+                int wrong = wrongDigit(n, 2, 1, 40);
+                boolean step = s == 1 || s == 2 || s == 4 || s == 8;
+                numberDue("T16032p" + two(n) + s, 7, wrong == NONE && !step ? 2 : wrong);
+            }
+        }
+        sentence("j and a digit for a frame (0 to 7): jump(); f, two digits for a tent (00 to 23) and two for a value (00 to 99): fill()");
+        for (int i = 0; i <= 9; i++) {
+            numberDue("T16032j" + i, 7, wrongDigit(i, 1, 0, 7));
+        }
+        for (int t = 0; t <= 99; t++) {
+            for (int v = 0; v <= 99; v++) {
+                numberDue("T16032f" + two(t) + two(v), 7, wrongDigit(t, 2, 0, 23));
+            }
+        }
+    }
+
+    private static void leftToRight() {
+        sentence("There are no blanks. The text is read from left to right.");
+        String text = "T16032p011exj0f0000l";
+        for (int n = 0; n <= text.length(); n++) {
+            String blank = text.substring(0, n) + " " + text.substring(n);
+            due("a blank at " + n, Camps.withText(blank).errorPosition(), n);
+        }
+        due("the first of two wrong ones", Camps.withText("T16032p00 e9").errorPosition(), 8);
+        due("the first of two wrong ones", Camps.withText("T65999").errorPosition(), 2);
+        due("a wrong one ahead of the end", Camps.withText("T9").errorPosition(), 1);
+        due("left out by what stands left of it", Camps.withText("T16032f0000p011").load(), 1);
+        due("not by what stands right of it", Camps.withText("T16032p011f0000").load(), 0);
+    }
+
     private static void tooSoon() {
         sentence("if the text ends too soon, it is the length of the text.");
         String text = "T64128p408f2399j7elx";
@@ -207,6 +286,7 @@ public final class TextTest extends Due {
 
     private static void textStays() {
         sentence("Checks the text.");
+        sentence("Returns the error position of the text; NONE if it is a camp.");
         TentCamp camp = Camps.withText("T16032p0");
         due("errorPosition", camp.errorPosition(), 8);
         due("errorPosition again", camp.errorPosition(), 8);

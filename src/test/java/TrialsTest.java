@@ -35,6 +35,7 @@ public final class TrialsTest extends Due {
         scriptDigits();
         firstOfScript();
         allGroups();
+        failing();
         thresholds();
         fieldOfScript();
         doneByScript();
@@ -295,6 +296,8 @@ public final class TrialsTest extends Due {
     }
 
     private static void scriptLength() {
+        sentence("A script has 1 to 3 commands; each is a group of five decimal digits d1 to d5, and the first command is the highest group of "
+            + "the number (with zeros before it, if it has fewer digits).");
         sentence("n: number of commands, 1 to 3");
         TentCamp camp = Camps.of("p031");
         range("n", 1, 3, ARGUMENT, n -> camp.runScript(n, 0));
@@ -312,6 +315,7 @@ public final class TrialsTest extends Due {
     }
 
     private static void scriptDigits() {
+        sentence("script: the commands, a number of at most 5 * n digits (0 or more)");
         sentence("Throws IllegalArgumentException if n is out of range, or if script is negative or has more than 5 * n digits");
         TentCamp camp = Camps.of("e");
         long most = 1;
@@ -398,7 +402,41 @@ public final class TrialsTest extends Due {
         }
     }
 
+    private static void failing() {
+        sentence("The commands 1 to 4 fail if the method would throw an exception; commands with tents that do not exist fail");
+        sentence("4 t t v v: fill(tt, vv).");
+        sentence("xy, tt, vv, nn and xyz are decimal numbers.");
+        for (int n = 0; n <= 24; n++) {
+            TentCamp camp = Camps.of(n + "*p011");
+            for (int t = Math.max(n - 2, 0); t <= n + 2; t++) {
+                due("fill " + t + " of " + n, camp.runScript(1, 40000 + 100 * t), t < n ? NONE : 0);
+                due("fill " + t + " of " + n, camp.runScript(1, 40099 + 100 * t), t < n ? NONE : 0);
+                due("tent " + t + " of " + n, camp.runScript(1, 70000 + 100 * t + t / 16), t < n ? NONE : 0);
+            }
+            due("fill 99 of " + n, camp.runScript(1, 49999), 0);
+            due("at least " + n, camp.runScript(1, 90000 + n), NONE);
+            due("at least " + (n + 1), camp.runScript(1, 90000 + n + 1), 0);
+            due("at most " + n, camp.runScript(1, 50000 + n), NONE);
+            if (n > 0) {
+                due("at most " + (n - 1), camp.runScript(1, 50000 + n - 1), 0);
+            }
+            due("one more", camp.runScript(1, 10011), n < 24 ? NONE : 0);
+        }
+        for (int n = 0; n <= 8; n++) {
+            TentCamp camp = Camps.of(n + "*e");
+            for (int i = 0; i <= 9; i++) {
+                due("jump(" + i + ") of " + n, camp.runScript(1, 30000 + i), i < n ? NONE : 0);
+            }
+            due("enter behind " + n, camp.runScript(1, 20000), n < 8 ? NONE : 0);
+            due("leave of " + n, camp.runScript(1, 20001), n > 0 ? NONE : 0);
+            for (int k = 2; k <= 9; k++) {
+                due("k " + k, camp.runScript(1, 20000 + k), 0);
+            }
+        }
+    }
+
     private static void thresholds() {
+        sentence("8 0 0 n n: succeeds if at most nn fields are spare. 9 0 0 n n: succeeds if at least nn tents stand.");
         sentence("5 0 x y z: succeeds if all tents together have at most xyz places. 6 0 x y z: succeeds if all gaps together are at most xyz places.");
         for (String state : STATES) {
             TentCamp camp = Camps.of(state);
@@ -517,6 +555,9 @@ public final class TrialsTest extends Due {
     }
 
     private static void simulateRange() {
+        sentence("seed: any long");
+        sentence("A long x starts as the seed.");
+        sentence("Throws IllegalArgumentException if m is out of range");
         sentence("m: number of steps, 1 to 99");
         TentCamp camp = Camps.of("p031");
         range("m", 1, 99, ARGUMENT, m -> camp.simulate(5, m));

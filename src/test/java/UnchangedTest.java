@@ -12,6 +12,8 @@ public final class UnchangedTest extends Due {
 
     public static void main(String[] args) {
         check = new Check("UnchangedTest");
+        sentence("IndexOutOfBoundsException means that a tent, a field, a place or a frame does not exist, or that a save slot is not 0 or 1. "
+            + "IllegalArgumentException means that another argument is out of its range. IllegalStateException means what the method says.");
         sentence("A call that throws an exception changes nothing.");
         ofNew();
         ofRich();
