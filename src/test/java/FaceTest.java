@@ -106,10 +106,7 @@ public final class FaceTest {
         }
         right("no lambda", !code.replaceAll("(case [^;{}]*|default *)->", "").contains("->"));
         right("no method reference", !code.contains("::"));
-        Matcher calls = Pattern.compile("\\bSystem\\.\\w+").matcher(code);
-        while (calls.find()) {
-            right(calls.group() + " is of the library", calls.group().equals("System.arraycopy"));
-        }
+        library(code);
         Matcher caught = Pattern.compile("catch \\(([^)]*)\\)").matcher(code);
         String machine = ".*(ArrayIndex|NullPointer|ClassCast|NegativeArray|ArrayStore|\\bException|Throwable|Error).*";
         while (caught.find()) {
@@ -120,6 +117,31 @@ public final class FaceTest {
             "new ArithmeticException", "new UnsupportedOperationException", "new NoSuchElementException", "new RuntimeException");
         while (thrown.find()) {
             right(thrown.group(), exceptions.contains(thrown.group(1)));
+        }
+    }
+
+    /** Only what rule 4 lists is called by the name of its class, and imported. */
+    private static void library(String code) {
+        Set<String> numbers = Set.of("compare", "compareUnsigned", "max", "min", "abs", "bitCount", "floorDiv", "floorMod", "signum", "sum",
+            "numberOfLeadingZeros", "numberOfTrailingZeros", "highestOneBit", "lowestOneBit", "divideUnsigned", "remainderUnsigned",
+            "rotateLeft", "rotateRight", "reverse", "MAX_VALUE", "MIN_VALUE");
+        Matcher calls = Pattern.compile("\\b(System|Arrays|List|Math|Integer|Long|String|Character|Objects|Collections)\\.(\\w+)").matcher(code);
+        while (calls.find()) {
+            String name = calls.group(2);
+            boolean listed = switch (calls.group(1)) {
+                case "System" -> name.equals("arraycopy");
+                case "Arrays" -> name.equals("copyOf") || name.equals("copyOfRange") || name.equals("fill");
+                case "List" -> name.equals("of");
+                case "Math", "Integer", "Long" -> numbers.contains(name);
+                default -> false;
+            };
+            right(calls.group() + " is of the library", listed);
+        }
+        Set<String> classes = Set.of("ArrayList", "List", "Iterator", "Arrays", "NoSuchElementException");
+        Matcher imports = Pattern.compile("import ([\\w.*]+);").matcher(code);
+        while (imports.find()) {
+            String name = imports.group(1);
+            right(name + " is of the library", name.startsWith("java.util.") && classes.contains(name.substring(10)));
         }
     }
 
