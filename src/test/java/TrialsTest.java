@@ -176,6 +176,13 @@ public final class TrialsTest extends Due {
         // 21 of 3 and one of 1: only one field of 64 has no place to spare.
         due("64 is the best", Camps.of("21*p031 p011").bestSize(), 64);
         due("and it stays so for other settings", Camps.of("U8 K0 P0 21*p031 p011").bestSize(), 64);
+        // With one more of 1 only a field of 65 would have none, but 64 is the greatest; with 33 two fields do.
+        due("65 is none", Camps.of("21*p031 p011 p011").bestSize(), 33);
+        due("66 places", needed(Camps.of("21*p031 p011 p011"), 33), 66);
+        // With 7 one field of 7, or a big one of 4, would do, but 8 is the smallest.
+        due("7 is none", Camps.of("p031").bestSize(), 8);
+        due("7 is none", Camps.of("p041").bestSize(), 8);
+        due("7 is none", Camps.of("p031 p041").bestSize(), 8);
     }
 
     /** The places that the tents need with a usual size, pitched on an object of their own; 257 if it is not possible. */
@@ -332,6 +339,20 @@ public final class TrialsTest extends Due {
                 fails("script " + script, ARGUMENT, () -> camp.runScript(commands, script));
             }
             fails("the greatest", ARGUMENT, () -> camp.runScript(commands, Long.MAX_VALUE));
+        }
+        // With fewer digits there are zeros before it, and no command begins with one.
+        long all = 900009000090000L;
+        due("15 digits", camp.runScript(3, all), NONE);
+        due("10 digits", camp.runScript(2, all / 100000), NONE);
+        due("5 digits", camp.runScript(1, all / 10000000000L), NONE);
+        for (long less = all / 10; less > 0; less /= 10) {
+            due("three commands: " + less, camp.runScript(3, less), 0);
+        }
+        for (long less = all / 1000000; less > 0; less /= 10) {
+            due("two commands: " + less, camp.runScript(2, less), 0);
+        }
+        for (long less = all / 100000000000L; less > 0; less /= 10) {
+            due("one command: " + less, camp.runScript(1, less), 0);
         }
         // Numbers that would be fine if they were cut to an int.
         fails("20000 and 2 to the 32", ARGUMENT, () -> camp.runScript(1, 20000 + (1L << 32)));
