@@ -23,14 +23,19 @@ final class Check {
 
     /** What follows tests this sentence, which must stand in the document word by word. */
     void sentence(String words) {
+        sentence = " [" + words + "]";
+        sentences++;
+        if (!document().contains(inOneLine(words))) {
+            tell("no such sentence in the document");
+        }
+    }
+
+    /** The whole document in one line, without the marks of code. */
+    String document() {
         if (document == null) {
             document = inOneLine(read());
         }
-        sentence = " [" + words + "]";
-        sentences++;
-        if (!document.contains(inOneLine(words))) {
-            tell("no such sentence in the document");
-        }
+        return document;
     }
 
     private static String read() {
@@ -41,7 +46,7 @@ final class Check {
         }
     }
 
-    private static String inOneLine(String text) {
+    static String inOneLine(String text) {
         return text.replaceAll("```(text)?", " ").replace("`", "").replaceAll("\\s+", " ").trim();
     }
 

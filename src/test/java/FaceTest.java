@@ -21,6 +21,7 @@ public final class FaceTest {
 
     public static void main(String[] args) throws Exception {
         face();
+        promises();
         nested();
         source();
         room();
@@ -66,6 +67,26 @@ public final class FaceTest {
         Constructor<?>[] constructors = c.getDeclaredConstructors();
         right("one public constructor", constructors.length == 1 && Modifier.isPublic(constructors[0].getModifiers())
             && constructors[0].getParameterCount() == 0);
+    }
+
+    /** The promises are 26, in the order of the face, and each has the signature that the face has. */
+    private static void promises() throws Exception {
+        String doc = Files.readString(DOCUMENT);
+        List<String> inFace = new ArrayList<>();
+        Matcher lines = Pattern.compile("(?m)^    public ([^=\\n]*\\([^=\\n]*);").matcher(doc);
+        while (lines.find()) {
+            inFace.add(lines.group(1));
+        }
+        List<String> promised = new ArrayList<>();
+        Matcher heads = Pattern.compile("(?m)^## Promise (\\d+): (.*)\\n\\n`([^`]*)`:").matcher(doc);
+        while (heads.find()) {
+            promised.add(heads.group(3));
+            check.due("number of " + heads.group(2), Integer.parseInt(heads.group(1)), promised.size());
+            right(heads.group(2) + " heads " + heads.group(3),
+                promised.size() == 1 || heads.group(3).startsWith("int " + heads.group(2) + "("));
+        }
+        check.due("promises", promised.size(), 26);
+        check.same("signatures", String.join("; ", inFace), String.join("; ", promised));
     }
 
     private static String simple(Class<?>[] types) {
